@@ -63,14 +63,14 @@ public final class MoonTender {
     private final byte[] tape = new byte[MOST_BYTES];
     private final int[] refused = new int[6];
     private final Moment now = new Moment();
+    private Chart chart = new Chart();
     private final Parser parser = new Parser();
     private final Tide tide = new Tide();
-    private final Forecast forecast = new Forecast();
-    private final Bidding bidding = new Bidding();
-    private final Witness witness = new Witness();
+    private final Forecast forecast = new Forecast(chart, now);
+    private final Bidding bidding = new Bidding(chart, now);
+    private final Witness witness = new Witness(chart, now);
     private final Past past = new Past();
     private final Picture picture = new Picture();
-    private Chart chart = new Chart();
     private int tapeSize;
     private int seedNow = 1;
 
@@ -173,7 +173,7 @@ public final class MoonTender {
             case 2: return chart.depth[harbor];
             case 3: return now.offeredBy(harbor);
             case 4: return now.dueFrom(harbor);
-            case 5: return forecast.strands(harbor, 0) ? 1 : 0;
+            case 5: return isStranded(harbor) ? 1 : 0;
             case 6: return chart.owedBy(harbor);
             case 7: return chart.owedTo(harbor, 0);
             case 8: return chart.failing(now.purse) >> harbor & 1;
@@ -197,13 +197,15 @@ public final class MoonTender {
         if (!isMoon(moon) || !isPlace(place)) {
             return NOTHING;
         }
-        return tide.pullOn(chart, now, moon, place);
+        forecast.learn(0);
+        return forecast.pullNow(moon, place);
     }
 
     public int height(int place, int ahead) {
         if (!isPlace(place) || !forecast.reaches(ahead)) {
             return NOTHING;
         }
+        forecast.learn(ahead);
         return forecast.heightOf(place, ahead);
     }
 
@@ -211,6 +213,7 @@ public final class MoonTender {
         if (!isHarbor(harbor) || !forecast.reaches(ahead)) {
             return NONE;
         }
+        forecast.learn(ahead);
         switch (what) {
             case 0: return forecast.purseOf(harbor, ahead);
             case 1: return forecast.strands(harbor, ahead) ? 1 : 0;
@@ -234,6 +237,7 @@ public final class MoonTender {
             return NONE;
         }
         if (what == 0) {
+            forecast.learn(ahead);
             return forecast.countStranded(ahead);
         }
         return what == 1 ? forecast.firstStrandedFrom(ahead) : NONE;
@@ -429,9 +433,9 @@ public final class MoonTender {
 
     /** What was reckoned from the state before is out of date. */
     private void changed() {
-        forecast.begin(chart, now);
-        bidding.begin(chart, now);
-        witness.begin(chart, now);
+        forecast.begin(chart);
+        bidding.begin(chart);
+        witness.begin(chart);
     }
 
     private boolean isSea() {
@@ -448,6 +452,11 @@ public final class MoonTender {
 
     private boolean isPlace(int place) {
         return place >= 0 && place < chart.places;
+    }
+
+    private boolean isStranded(int harbor) {
+        forecast.learn(0);
+        return forecast.strands(harbor, 0);
     }
 
     private boolean isVoyage(int from, int to, int draught) {
@@ -472,7 +481,10 @@ public final class MoonTender {
     }
 
     private static int within(int low, int n, int high) {
-        return n < low ? low : Math.min(n, high);
+        if (n < low) {
+            return low;
+        }
+        return n > high ? high : n;
     }
 
     /** All that changes as HOURS go by and ACTS are done. */
@@ -507,19 +519,35 @@ public final class MoonTender {
         }
 
         int offeredTo(int moon) {
-            return sumForMoon(offer, moon);
+            int sum = 0;
+            for (int h = 0; h < MOST_HARBORS; h++) {
+                sum += offer[h * MOST_MOONS + moon];
+            }
+            return sum;
         }
 
         int dueTo(int moon) {
-            return sumForMoon(due, moon);
+            int sum = 0;
+            for (int h = 0; h < MOST_HARBORS; h++) {
+                sum += due[h * MOST_MOONS + moon];
+            }
+            return sum;
         }
 
         int offeredBy(int harbor) {
-            return sumForHarbor(offer, harbor);
+            int sum = 0;
+            for (int m = 0; m < MOST_MOONS; m++) {
+                sum += offer[harbor * MOST_MOONS + m];
+            }
+            return sum;
         }
 
         int dueFrom(int harbor) {
-            return sumForHarbor(due, harbor);
+            int sum = 0;
+            for (int m = 0; m < MOST_MOONS; m++) {
+                sum += due[harbor * MOST_MOONS + m];
+            }
+            return sum;
         }
 
         int offeredInAll() {
@@ -532,22 +560,6 @@ public final class MoonTender {
 
         int coinsDue() {
             return sumOf(due);
-        }
-
-        private static int sumForMoon(int[] pairs, int moon) {
-            int sum = 0;
-            for (int h = 0; h < MOST_HARBORS; h++) {
-                sum += pairs[pair(h, moon)];
-            }
-            return sum;
-        }
-
-        private static int sumForHarbor(int[] pairs, int harbor) {
-            int sum = 0;
-            for (int m = 0; m < MOST_MOONS; m++) {
-                sum += pairs[pair(harbor, m)];
-            }
-            return sum;
         }
 
         private static int sumOf(int[] row) {
@@ -569,6 +581,7 @@ public final class MoonTender {
         static final int WORD_CODE = 10000;
         /** Codes from here on work on what is on the stack: a sign's byte, or an OWN WORD. */
         static final int WORK_CODE = 20000;
+        static final int ALWAYS = WORK_CODE + ALL;
         static final int LIMIT = 1000000;
 
         final int[] code = new int[MOST_BYTES];
@@ -620,9 +633,14 @@ public final class MoonTender {
             int top = 0;
             for (int i = from[which]; i < to[which]; i++) {
                 int c = code[i];
-                if (c < WORK_CODE || c == WORK_CODE + ALL) {
+                if (c < WORK_CODE) {
                     if (top < stack.length) {
-                        stack[top] = plainValue(c);
+                        stack[top] = c < WORD_CODE ? c : values[c - WORD_CODE];
+                        top++;
+                    }
+                } else if (c == ALWAYS) {
+                    if (top < stack.length) {
+                        stack[top] = 1;
                         top++;
                     }
                 } else if (c == WORK_CODE + NOT) {
@@ -637,29 +655,27 @@ public final class MoonTender {
             return top > 0 ? stack[top - 1] : 0;
         }
 
-        private int plainValue(int c) {
-            if (c < WORD_CODE) {
-                return c;
-            }
-            return c < WORD_CODE + OWN_WORDS ? values[c - WORD_CODE] : 1;
-        }
-
         private static int joined(int work, int a, int b) {
+            long result = 0;
             switch (work) {
-                case '+': return within(-LIMIT, a + b, LIMIT);
-                case '-': return within(-LIMIT, a - b, LIMIT);
-                case '*': return (int) Math.max(-LIMIT, Math.min(LIMIT, (long) a * b));
-                case '/': return b == 0 ? 0 : Math.floorDiv(a, b);
-                case '%': return b == 0 ? 0 : Math.floorMod(a, b);
-                case '<': return a < b ? 1 : 0;
-                case '>': return a > b ? 1 : 0;
-                case '=': return a == b ? 1 : 0;
-                case OR: return a | b;
-                case AND: return a & b;
-                case MIN: return Math.min(a, b);
-                case MAX: return Math.max(a, b);
-                default: return 0;
+                case '+': result = a + b; break;
+                case '-': result = a - b; break;
+                case '*': result = (long) a * b; break;
+                case '/': result = b == 0 ? 0 : Math.floorDiv(a, b); break;
+                case '%': result = b == 0 ? 0 : Math.floorMod(a, b); break;
+                case '<': result = a < b ? 1 : 0; break;
+                case '>': result = a > b ? 1 : 0; break;
+                case '=': result = a == b ? 1 : 0; break;
+                case OR: result = a | b; break;
+                case AND: result = a & b; break;
+                case MIN: result = a < b ? a : b; break;
+                case MAX: result = a > b ? a : b; break;
+                default: break;
             }
+            if (result > LIMIT) {
+                return LIMIT;
+            }
+            return result < -LIMIT ? -LIMIT : (int) result;
         }
     }
 
@@ -763,11 +779,6 @@ public final class MoonTender {
             return fallen;
         }
 
-        int stepsBetween(int a, int b) {
-            int steps = Math.abs(a - b);
-            return Math.min(steps, places - steps);
-        }
-
         int placeAfter(Moment now, int moon, int later) {
             return places > 0 ? (now.place[moon] + later * goes[moon]) % places : 0;
         }
@@ -796,10 +807,11 @@ public final class MoonTender {
         static final int NUMBER = 2;
         static final int SIGN = 3;
         static final int BAD = 4;
-        private static final String OWN =
-                "sea   moon  at    goes  temperharborpurse depth pays  owes  clausepull  earns level sulk  "
-                + "heightpaid  due   far   sulks rival hour  place or    and   not   all   min   max   ";
+        private static final String OWN = "sea moon at goes temper harbor purse depth pays owes clause pull earns level sulk height paid due far sulks rival hour place or and not all min max";
         private static final String SIGNS = ";+-*/%()[],<>=";
+        // A NAME is held in one int, each letter as 1 .. 26 in five bits, the first one highest.
+        private static final int LETTER_BITS = 5;
+        private static final int FIRST_LETTER = 25;
 
         private final int[] keys = new int[OWN_WORDS];
         private byte[] text = new byte[0];
@@ -816,22 +828,22 @@ public final class MoonTender {
         int own;
 
         Lexer() {
-            for (int w = 0; w < OWN_WORDS; w++) {
-                for (int k = 0; k < MOST_LETTERS; k++) {
-                    int c = OWN.charAt(w * MOST_LETTERS + k);
-                    if (c != ' ') {
-                        keys[w] |= letterAt(c, k);
-                    }
+            int word = 0;
+            int k = 0;
+            for (int i = 0; i < OWN.length() && word < OWN_WORDS; i++) {
+                int c = OWN.charAt(i);
+                if (c == ' ') {
+                    word++;
+                    k = 0;
+                } else {
+                    keys[word] |= (c - 'a' + 1) << (FIRST_LETTER - LETTER_BITS * k);
+                    k++;
                 }
             }
         }
 
-        static int letterAt(int c, int k) {
-            return (c - 'a' + 1) << (25 - 5 * k);
-        }
-
         static int letterOf(int name, int k) {
-            return name >> (25 - 5 * k) & 31;
+            return name >> (FIRST_LETTER - LETTER_BITS * k) & 31;
         }
 
         void begin(byte[] bytes, int count) {
@@ -842,40 +854,37 @@ public final class MoonTender {
         }
 
         void advance() {
-            boolean behindWord = kind == WORD || kind == NUMBER;
-            int edge = next;
-            while (next < size && isBlank(text[next])) {
+            int edge = kind == WORD || kind == NUMBER ? next : NONE;
+            while (next < size && (text[next] == 10 || text[next] == 32)) {
                 next++;
             }
             start = next;
             wrongAt = next;
             own = NONE;
-            boolean glued = behindWord && next == edge;
+            value = 0;
+            int c = next < size ? text[next] : 0;
             if (next >= size) {
                 kind = END;
-            } else if (isLetter(text[next])) {
-                kind = glued ? BAD : WORD;
-                takeWord();
-            } else if (isDigit(text[next])) {
-                kind = glued ? BAD : NUMBER;
-                takeNumber();
+            } else if (c >= 'a' && c <= 'z') {
+                takeWord(edge == next);
+            } else if (c >= '0' && c <= '9') {
+                takeNumber(edge == next);
             } else {
-                value = text[next];
-                kind = value > 0 && SIGNS.indexOf((char) value) >= 0 ? SIGN : BAD;
+                value = c;
+                kind = c > 0 && SIGNS.indexOf((char) c) >= 0 ? SIGN : BAD;
                 next++;
             }
         }
 
-        private void takeWord() {
-            value = 0;
-            while (next < size && isLetter(text[next])) {
-                if (next - start < MOST_LETTERS) {
-                    value |= letterAt(text[next], next - start);
-                } else {
-                    tooLong(start + MOST_LETTERS);
-                }
+        /** A word that is glued to a word or number ahead of it can't stand there. */
+        private void takeWord(boolean glued) {
+            while (next < size && text[next] >= 'a' && text[next] <= 'z' && next - start < MOST_LETTERS) {
+                value |= (text[next] - 'a' + 1) << (FIRST_LETTER - LETTER_BITS * (next - start));
                 next++;
             }
+            boolean tooLong = next < size && text[next] >= 'a' && text[next] <= 'z';
+            kind = glued || tooLong ? BAD : WORD;
+            wrongAt = tooLong && !glued ? next : start;
             for (int w = 0; w < OWN_WORDS && own == NONE; w++) {
                 if (keys[w] == value) {
                     own = w;
@@ -883,35 +892,14 @@ public final class MoonTender {
             }
         }
 
-        private void takeNumber() {
-            value = 0;
-            while (next < size && isDigit(text[next])) {
-                if (next - start < MOST_DIGITS) {
-                    value = value * 10 + text[next] - '0';
-                } else {
-                    tooLong(start + MOST_DIGITS);
-                }
+        private void takeNumber(boolean glued) {
+            while (next < size && text[next] >= '0' && text[next] <= '9' && next - start < MOST_DIGITS) {
+                value = value * 10 + text[next] - '0';
                 next++;
             }
-        }
-
-        private void tooLong(int at) {
-            if (kind != BAD) {
-                kind = BAD;
-                wrongAt = at;
-            }
-        }
-
-        private static boolean isBlank(int c) {
-            return c == 10 || c == 32;
-        }
-
-        private static boolean isLetter(int c) {
-            return c >= 'a' && c <= 'z';
-        }
-
-        private static boolean isDigit(int c) {
-            return c >= '0' && c <= '9';
+            boolean tooLong = next < size && text[next] >= '0' && text[next] <= '9';
+            kind = glued || tooLong ? BAD : NUMBER;
+            wrongAt = tooLong && !glued ? next : start;
         }
     }
 
@@ -1063,13 +1051,38 @@ public final class MoonTender {
                 case HARBOR: harborStatement(); break;
                 case PAYS: paysStatement(); break;
                 case OWES: owesStatement(); break;
-                case CLAUSE: clauseStatement(); break;
-                case PULL: sumStatement(Formulas.OF_PULL); break;
-                case EARNS: sumStatement(Formulas.OF_EARNS); break;
                 case LEVEL: lexer.advance(); chart.level = number(0, 99); break;
                 case SULK: lexer.advance(); chart.sulk = number(1, 999); break;
+                case PULL:
+                case EARNS:
+                case CLAUSE:
+                    int which = formulaOf(word);
+                    if (which != NONE) {
+                        chart.formulas.open(which);
+                        if (word == CLAUSE) {
+                            test();
+                        } else {
+                            sum();
+                        }
+                        chart.formulas.close(which);
+                    }
+                    break;
                 default: wrong(); break;
             }
+        }
+
+        /** Where the SUM or TEST of a STATEMENT goes, or NONE if it is one too many. */
+        private int formulaOf(int word) {
+            int which = word == PULL ? Formulas.OF_PULL : Formulas.OF_EARNS;
+            if (word == CLAUSE) {
+                which = Formulas.OF_CLAUSES + chart.clauses;
+                if (!oneMore(chart.clauses < MOST_CLAUSES)) {
+                    return NONE;
+                }
+                chart.clauses++;
+                return which;
+            }
+            return oneMore(!chart.formulas.isThere(which)) ? which : NONE;
         }
 
         private void moonStatement() {
@@ -1135,26 +1148,6 @@ public final class MoonTender {
             }
         }
 
-        private void clauseStatement() {
-            int c = chart.clauses;
-            if (!oneMore(c < MOST_CLAUSES)) {
-                return;
-            }
-            chart.formulas.open(Formulas.OF_CLAUSES + c);
-            test();
-            chart.formulas.close(Formulas.OF_CLAUSES + c);
-            chart.clauses = c + 1;
-        }
-
-        private void sumStatement(int which) {
-            if (!oneMore(!chart.formulas.isThere(which))) {
-                return;
-            }
-            chart.formulas.open(which);
-            sum();
-            chart.formulas.close(which);
-        }
-
         private void work(int what) {
             chart.formulas.add(Formulas.WORK_CODE + what);
         }
@@ -1168,11 +1161,6 @@ public final class MoonTender {
             openNow++;
             lexer.advance();
             return true;
-        }
-
-        private void closed(int sign) {
-            sign(sign);
-            openNow--;
         }
 
         private void test() {
@@ -1203,25 +1191,22 @@ public final class MoonTender {
             } else if (isSign('[')) {
                 if (opened()) {
                     test();
-                    closed(']');
+                    sign(']');
+                    openNow--;
                 }
             } else if (isWord(ALL)) {
                 work(ALL);
                 lexer.advance();
             } else {
-                comparison();
-            }
-        }
-
-        private void comparison() {
-            sum();
-            int sign = lexer.value;
-            if (isSign('<') || isSign('>') || isSign('=')) {
-                lexer.advance();
                 sum();
-                work(sign);
-            } else {
-                wrong();
+                int sign = lexer.value;
+                if (isSign('<') || isSign('>') || isSign('=')) {
+                    lexer.advance();
+                    sum();
+                    work(sign);
+                } else {
+                    wrong();
+                }
             }
         }
 
@@ -1252,7 +1237,8 @@ public final class MoonTender {
             } else if (isSign('(')) {
                 if (opened()) {
                     sum();
-                    closed(')');
+                    sign(')');
+                    openNow--;
                 }
             } else if (isWord(MIN) || isWord(MAX)) {
                 ofTwo(lexer.own);
@@ -1272,7 +1258,8 @@ public final class MoonTender {
                 sum();
                 sign(',');
                 sum();
-                closed(')');
+                sign(')');
+                openNow--;
                 work(word);
             }
         }
@@ -1289,12 +1276,6 @@ public final class MoonTender {
         final int[] pulls = new int[MOST_MOONS * MOST_PLACES];
         final int[] heights = new int[MOST_PLACES];
 
-        int pullOn(Chart chart, Moment now, int moon, int place) {
-            int paid = now.offeredTo(moon);
-            tellMoon(chart, now, moon, paid, now.offeredInAll() - paid);
-            return onePull(chart, now, moon, place);
-        }
-
         void rise(Chart chart, Moment now) {
             int inAll = now.offeredInAll();
             for (int m = 0; m < chart.moons; m++) {
@@ -1304,33 +1285,30 @@ public final class MoonTender {
             settle(chart);
         }
 
-        /** The PULLS of a MOON that is bid so much, its rivals so much, on all PLACES. */
+        /**
+         * The PULLS of a MOON that is bid so much, its rivals so much, on all PLACES. A SUM that does not
+         * ask for the PLACE is the same as many steps to the left and to the right.
+         */
         void fillPulls(Chart chart, Moment now, int moon, int paid, int rival) {
-            int base = moon * MOST_PLACES;
-            if (!chart.formulas.isThere(Formulas.OF_PULL)) {
-                Arrays.fill(pulls, base, base + MOST_PLACES, 0);
-                return;
-            }
             tellMoon(chart, now, moon, paid, rival);
-            if (chart.formulas.uses(Formulas.OF_PULL, PLACE)) {
-                for (int p = 0; p < chart.places; p++) {
-                    pulls[base + p] = onePull(chart, now, moon, p);
-                }
-            } else {
-                fillBothWays(chart, now, moon);
-            }
-        }
-
-        /** A SUM that does not ask for the PLACE is the same as many steps to the left and the right. */
-        private void fillBothWays(Chart chart, Moment now, int moon) {
+            Formulas formulas = chart.formulas;
+            boolean byPlace = formulas.uses(Formulas.OF_PULL, PLACE);
+            boolean varies = byPlace || formulas.uses(Formulas.OF_PULL, FAR);
             int base = moon * MOST_PLACES;
-            int same = chart.formulas.uses(Formulas.OF_PULL, FAR) ? NOTHING : onePull(chart, now, moon, 0);
-            for (int far = 0; chart.places > 0 && far <= chart.places / 2; far++) {
-                int right = (now.place[moon] + far) % chart.places;
-                int left = (now.place[moon] + chart.places - far) % chart.places;
-                int strength = same == NOTHING ? onePull(chart, now, moon, right) : same;
+            int from = now.place[moon];
+            int strength = 0;
+            int most = byPlace ? chart.places - 1 : chart.places / 2;
+            for (int steps = 0; steps <= most && chart.places > 0; steps++) {
+                int right = (from + steps) % chart.places;
+                if (varies || steps == 0) {
+                    formulas.values[FAR] = Math.min(steps, chart.places - steps);
+                    formulas.values[PLACE] = right;
+                    strength = within(-MOST_PULL, formulas.reckon(Formulas.OF_PULL), MOST_PULL);
+                }
                 pulls[base + right] = strength;
-                pulls[base + left] = strength;
+                if (!byPlace) {
+                    pulls[base + (from + chart.places - steps) % chart.places] = strength;
+                }
             }
         }
 
@@ -1366,7 +1344,7 @@ public final class MoonTender {
             return chart.level + pulled - share - (place < left ? 1 : 0);
         }
 
-        private void tellMoon(Chart chart, Moment now, int moon, int paid, int rival) {
+        private static void tellMoon(Chart chart, Moment now, int moon, int paid, int rival) {
             int[] values = chart.formulas.values;
             int due = now.dueTo(moon);
             Arrays.fill(values, 0);
@@ -1376,12 +1354,6 @@ public final class MoonTender {
             values[SULKS] = due >= chart.sulk ? 1 : 0;
             values[RIVAL] = rival;
             values[HOUR] = now.hour;
-        }
-
-        private int onePull(Chart chart, Moment now, int moon, int place) {
-            chart.formulas.values[FAR] = chart.stepsBetween(now.place[moon], place);
-            chart.formulas.values[PLACE] = place;
-            return within(-MOST_PULL, chart.formulas.reckon(Formulas.OF_PULL), MOST_PULL);
         }
 
         private static void tellHarbor(Chart chart, Moment now, int harbor, int height) {
@@ -1455,10 +1427,12 @@ public final class MoonTender {
     private static final class Forecast {
         private final Tide tide = new Tide();
         private final Moment then = new Moment();
+        private final int[] pulls = new int[MOST_MOONS * MOST_PLACES];
         private final int[] heights = new int[(FAR_AHEAD + 1) * MOST_PLACES];
         private final int[] purses = new int[(FAR_AHEAD + 1) * MOST_HARBORS];
         private final int[] dues = new int[(FAR_AHEAD + 1) * MOST_HARBORS];
-        private Chart chart = new Chart();
+        private final Moment now;
+        private Chart chart;
         /** The last HOUR AHEAD that there is, and how many are reckoned. */
         private int last = FAR_AHEAD;
         private int known;
@@ -1466,9 +1440,13 @@ public final class MoonTender {
         int brokenHarbor = NONE;
         int brokenClause = NONE;
 
-        void begin(Chart newChart, Moment now) {
+        Forecast(Chart firstChart, Moment theNow) {
+            chart = firstChart;
+            now = theNow;
+        }
+
+        void begin(Chart newChart) {
             chart = newChart;
-            then.copyFrom(now);
             last = Math.min(FAR_AHEAD, LAST_HOUR - now.hour);
             known = 0;
             brokenHour = NONE;
@@ -1481,18 +1459,34 @@ public final class MoonTender {
             return chart.places > 0 && ahead >= 0 && ahead <= last;
         }
 
+        /** Reckons up to an HOUR AHEAD; this must be done before one asks for it. */
+        void learn(int ahead) {
+            int upTo = Math.min(ahead, last);
+            for (int t = known; t <= upTo; t++) {
+                if (t == 0) {
+                    then.copyFrom(now);
+                } else {
+                    tide.passRisenHour(chart, then);
+                }
+                tide.rise(chart, then);
+                write(t);
+                known = t + 1;
+            }
+        }
+
+        int pullNow(int moon, int place) {
+            return pulls[moon * MOST_PLACES + place];
+        }
+
         int heightOf(int place, int ahead) {
-            learn(ahead);
             return heights[ahead * MOST_PLACES + place];
         }
 
         int purseOf(int harbor, int ahead) {
-            learn(ahead);
             return purses[ahead * MOST_HARBORS + harbor];
         }
 
         int dueFrom(int harbor, int ahead) {
-            learn(ahead);
             return dues[ahead * MOST_HARBORS + harbor];
         }
 
@@ -1512,6 +1506,7 @@ public final class MoonTender {
 
         int firstStrandedFrom(int ahead) {
             for (int t = ahead; t <= last; t++) {
+                learn(t);
                 if (countStranded(t) > 0) {
                     return t;
                 }
@@ -1528,11 +1523,10 @@ public final class MoonTender {
 
         /** How many HOURS a SHIP needs from PLACE to PLACE, or NONE. */
         int crossing(int from, int to, int draught) {
-            int reached = 1 << from & floating(0, draught);
+            int reached = 1 << from;
             for (int t = 0; t <= last && reached != 0; t++) {
-                if (t > 0) {
-                    reached = spread(reached) & floating(t, draught);
-                }
+                learn(t);
+                reached = (t == 0 ? reached : spread(reached)) & floating(t, draught);
                 if ((reached >> to & 1) == 1) {
                     return t;
                 }
@@ -1543,6 +1537,7 @@ public final class MoonTender {
         /** The last HOUR AHEAD from which a SHIP still comes from PLACE to PLACE, or NONE. */
         int lastStart(int from, int to, int draught) {
             int good = 0;
+            learn(last);
             for (int t = last; t >= 0; t--) {
                 good = (1 << to | spread(good)) & floating(t, draught);
                 if ((good >> from & 1) == 1) {
@@ -1573,19 +1568,10 @@ public final class MoonTender {
             return wide & (1 << chart.places) - 1;
         }
 
-        private void learn(int ahead) {
-            int upTo = Math.min(ahead, last);
-            for (int t = known; t <= upTo; t++) {
-                if (t > 0) {
-                    tide.passRisenHour(chart, then);
-                }
-                tide.rise(chart, then);
-                write(t);
-                known = t + 1;
-            }
-        }
-
         private void write(int t) {
+            if (t == 0) {
+                System.arraycopy(tide.pulls, 0, pulls, 0, pulls.length);
+            }
             System.arraycopy(tide.heights, 0, heights, t * MOST_PLACES, MOST_PLACES);
             for (int h = 0; h < chart.harbors; h++) {
                 purses[t * MOST_HARBORS + h] = then.purse[h];
@@ -1612,12 +1598,14 @@ public final class MoonTender {
         /** By MOON, its bid and the sum of the other bids: the PULL on the bidder's PLACE, on all PLACES. */
         private final int[] pullHere = new int[MOST_MOONS * BIDS * RIVAL_SUMS];
         private final int[] pullAll = new int[MOST_MOONS * BIDS * RIVAL_SUMS];
+        private final int[] reckonedIn = new int[MOST_MOONS * BIDS * RIVAL_SUMS];
         private final int[] base = new int[MOST_MOONS];
         private final int[] trial = new int[MOST_MOONS];
         private final int[] best = new int[MOST_MOONS];
-        private Chart chart = new Chart();
-        private Moment now = new Moment();
+        private final Moment now;
+        private Chart chart;
         private int bidder;
+        private int turn;
         private int wishedHarbor = NONE;
         private int wishedHeight;
         int wishedSum = NONE;
@@ -1626,9 +1614,13 @@ public final class MoonTender {
         /** 0 when REST isn't reckoned yet. */
         int restRound;
 
-        void begin(Chart newChart, Moment newNow) {
+        Bidding(Chart firstChart, Moment theNow) {
+            chart = firstChart;
+            now = theNow;
+        }
+
+        void begin(Chart newChart) {
             chart = newChart;
-            now = newNow;
             wishedHarbor = NONE;
             restRound = 0;
         }
@@ -1682,40 +1674,39 @@ public final class MoonTender {
         /** A HARBOR takes its best bids: whether these are other ones than it had. */
         private boolean takesOthers(int harbor) {
             takeUp(harbor, rested);
-            int bestGain = ownGain(harbor);
-            boolean moved = false;
+            int bestGain = NOTHING;
+            int ownGain = NOTHING;
             int tries = triesUpTo(MOST_RESTED);
             for (int i = 0; i < tries; i++) {
                 int gain = trialHeight(rested) - trialSum();
                 if (gain > bestGain) {
                     bestGain = gain;
-                    moved = true;
                     System.arraycopy(trial, 0, best, 0, MOST_MOONS);
+                }
+                if (isOwn(harbor)) {
+                    ownGain = gain;
                 }
                 nextTrial(MOST_RESTED);
             }
-            if (moved) {
-                System.arraycopy(best, 0, rested.offer, Moment.pair(harbor, 0), MOST_MOONS);
+            if (ownGain == bestGain) {
+                return false;
             }
-            return moved;
+            System.arraycopy(best, 0, rested.offer, Moment.pair(harbor, 0), MOST_MOONS);
+            return true;
         }
 
-        /** What a HARBOR's own bids bring it, or NOTHING when they are not among those it may take. */
-        private int ownGain(int harbor) {
-            boolean allowed = true;
+        private boolean isOwn(int harbor) {
+            boolean same = true;
             for (int m = 0; m < chart.moons; m++) {
-                trial[m] = rested.offer[Moment.pair(harbor, m)];
-                allowed &= trial[m] <= MOST_RESTED;
+                same &= trial[m] == rested.offer[Moment.pair(harbor, m)];
             }
-            int gain = allowed ? trialHeight(rested) - trialSum() : NOTHING;
-            Arrays.fill(trial, 0);
-            return gain;
+            return same;
         }
 
         /** Makes ready for the trials of a HARBOR: what the others bid stays. */
         private void takeUp(int harbor, Moment moment) {
             bidder = harbor;
-            Arrays.fill(pullHere, NOTHING);
+            turn++;
             Arrays.fill(trial, 0);
             for (int m = 0; m < MOST_MOONS; m++) {
                 base[m] = moment.offeredTo(m) - moment.offer[Moment.pair(harbor, m)];
@@ -1745,28 +1736,27 @@ public final class MoonTender {
             return trial[0] + trial[1] + trial[2];
         }
 
+        /** The bidder's HEIGHT by the trial; each slot is reckoned once in a turn. */
         private int trialHeight(Moment moment) {
             int sum = trialSum();
+            int place = chart.harborPlace[bidder];
             int here = 0;
             int total = 0;
             boolean rivalry = chart.formulas.uses(Formulas.OF_PULL, RIVAL);
             for (int m = 0; m < chart.moons; m++) {
                 int others = rivalry ? sum - trial[m] : 0;
                 int slot = (m * BIDS + trial[m]) * RIVAL_SUMS + others;
-                if (pullHere[slot] == NOTHING) {
-                    reckonSlot(moment, m, others, slot);
+                if (reckonedIn[slot] != turn) {
+                    int rival = base[0] + base[1] + base[2] - base[m] + others;
+                    tide.fillPulls(chart, moment, m, base[m] + trial[m], rival);
+                    pullHere[slot] = tide.pulls[m * MOST_PLACES + place];
+                    pullAll[slot] = tide.totalOf(chart, m);
+                    reckonedIn[slot] = turn;
                 }
                 here += pullHere[slot];
                 total += pullAll[slot];
             }
-            return Tide.heightFrom(chart, chart.harborPlace[bidder], here, total);
-        }
-
-        private void reckonSlot(Moment moment, int moon, int others, int slot) {
-            int rival = base[0] + base[1] + base[2] - base[moon] + others;
-            tide.fillPulls(chart, moment, moon, base[moon] + trial[moon], rival);
-            pullHere[slot] = tide.pulls[moon * MOST_PLACES + chart.harborPlace[bidder]];
-            pullAll[slot] = tide.totalOf(chart, moon);
+            return Tide.heightFrom(chart, place, here, total);
         }
     }
 
@@ -1776,17 +1766,21 @@ public final class MoonTender {
         private final Moment some = new Moment();
         private final int[] seenPlace = new int[MOST_SEEN];
         private final int[] seenHeight = new int[MOST_SEEN];
-        private Chart chart = new Chart();
-        private Moment now = new Moment();
+        private final Moment now;
+        private Chart chart;
         private boolean judged;
         int rows;
         int sets;
         int inAll;
         int inSome;
 
-        void begin(Chart newChart, Moment newNow) {
+        Witness(Chart firstChart, Moment theNow) {
+            chart = firstChart;
+            now = theNow;
+        }
+
+        void begin(Chart newChart) {
             chart = newChart;
-            now = newNow;
             judged = false;
         }
 
