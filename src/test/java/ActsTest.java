@@ -134,6 +134,13 @@ public final class ActsTest {
         y.bid(0, 0, 0);
         y.hours(1);
         CHECK.due("2 do not pay what is due", y.bids(0, 1, 1), 4);
+        MoonTender w = CHECK.sea("sea 4;moon m at 0 goes 0 temper 0;harbor h at 0 purse 0 depth 0;pays h m 1;earns hour;");
+        w.hours(1);
+        CHECK.due("one is due", w.bids(0, 0, 1), 1);
+        w.bid(0, 0, 0);
+        w.hours(1);
+        CHECK.due("and one pays it", w.bids(0, 0, 1), 0);
+        CHECK.due("and none is left", w.harbor(0, 1), 0);
         y.give(1, 0, 2);
         y.hours(1);
         CHECK.due("4 do, without a bid", y.bids(0, 1, 1), 0);
@@ -186,6 +193,9 @@ public final class ActsTest {
                 + "pull temper*(1-min(1,far));earns height-20;");
         y.storms(1);
         CHECK.due("the storm comes ahead of the hour", y.harbor(0, 1), 6);
+        CHECK.due("height as the storm left it", y.height(0, 0), 26);
+        y.storms(1);
+        CHECK.due("height as the next storm left it", y.height(0, 0), 20);
         MoonTender z = CHECK.sea("sea 4;");
         CHECK.due("storms without moons", z.storms(5), 5);
         CHECK.due("draw nothing", z.has(11), 1);

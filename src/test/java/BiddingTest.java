@@ -42,6 +42,14 @@ public final class BiddingTest {
         CHECK.due("without moons", still.wished(0, 20, -1), 0);
         CHECK.due("without moons, more", still.wished(0, 21, -1), -1);
         CHECK.due("without moons, k 0", still.wished(0, 20, 0), -1);
+        // The height at 0 is 20 and what m is bid less what n and o are bid: 5 and what h adds, less 3.
+        MoonTender rivals = CHECK.sea(MOON + "moon n at 1 goes 0 temper 0;moon o at 3 goes 0 temper 0;" + HARBORS
+                + "pays i m 5;pays i n 1;pays i o 2;pull (paid-rival)*(1-far);");
+        CHECK.due("with rivals' bids", rivals.height(0, 0), 22);
+        CHECK.due("with rivals' bids", rivals.wished(0, 22, -1), 0);
+        CHECK.due("with rivals' bids", rivals.wished(0, 25, -1), 3);
+        CHECK.due("with rivals' bids", rivals.wished(0, 25, 0), 3);
+        CHECK.due("with rivals' bids", rivals.wished(0, 25, 2), 0);
     }
 
     private static void wished(String sea, int height, int... want) {

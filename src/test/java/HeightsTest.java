@@ -64,6 +64,11 @@ public final class HeightsTest {
         for (int p = 0; p < 5; p++) {
             CHECK.due("of five places: pull(1, " + p + ")", odd.pull(1, p), oddSteps[p]);
         }
+        MoonTender both = CHECK.sea(TWO + "pull far*10+place;");
+        int[] farAndPlace = {20, 11, 2, 13, 24, 35};
+        for (int p = 0; p < 6; p++) {
+            CHECK.due("far and place: pull(1, " + p + ")", both.pull(1, p), farAndPlace[p]);
+        }
         CHECK.due("pull(2, 0)", y.pull(2, 0), NOTHING);
         CHECK.due("pull(-1, 0)", y.pull(-1, 0), NOTHING);
         CHECK.due("pull(0, 6)", y.pull(0, 6), NOTHING);

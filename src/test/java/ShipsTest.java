@@ -83,6 +83,9 @@ public final class ShipsTest {
         CHECK.due("by the last hour", y.latest(0, 1, 99), 6);
         y.hours(7);
         CHECK.due("too late", y.latest(0, 1, 99), -1);
+        y.undo();
+        y.hours(6);
+        CHECK.due("just now", y.latest(0, 1, 99), 0);
         MoonTender still = CHECK.sea("sea 4;moon m at 0 goes 0 temper 0;" + DRY);
         CHECK.due("round the dry place", still.latest(1, 3, 15), 46);
         CHECK.due("to the dry place", still.latest(1, 2, 15), -1);

@@ -10,6 +10,7 @@ public final class TextTest {
         promise2();
         promise3();
         promise4();
+        promise4Anew();
         promise4Counts();
         promise5();
         faultOne();
@@ -124,6 +125,32 @@ public final class TextTest {
         CHECK.due("sulk is 50 again", x.has(6), 50);
     }
 
+    /** Each text begins anew, however many were told ahead of it. */
+    private static void promise4Anew() {
+        MoonTender x = new MoonTender();
+        String full = "sea 9;level 1;sulk 2;moon m at 5 goes 3 temper 7;moon n at 6 goes 3 temper 8;"
+                + "harbor h at 7 purse 5 depth 3;harbor i at 8 purse 6 depth 3;pays h m 4;pays i n 6;"
+                + "owes h i 5;owes i h 7;clause 1<0;clause all;pull paid;earns 9;";
+        for (int i = 0; i < 3; i++) {
+            CHECK.due("a full sea", Check.sea(x, full), 15);
+            x.hours(4);
+        }
+        for (int i = 0; i < 2; i++) {
+            CHECK.due("a small one", Check.sea(x, "sea 8;" + MOON + HARBOR), 3);
+            int[] has = {8, 1, 1, 0, 0, 20, 50, 0, 0, 0, 0, 1};
+            for (int what = 0; what < has.length; what++) {
+                CHECK.due("of the small one: has(" + what + ")", x.has(what), has[what]);
+            }
+            CHECK.due("its bid", x.bids(0, 0, 0), 0);
+            CHECK.due("its pull", x.pull(0, 0), 0);
+            CHECK.due("its earnings", x.ahead(0, 1, 0), 0);
+            CHECK.due("its clauses", x.broken(0), -1);
+        }
+        Check.sea(x, full);
+        Check.sea(x, "sea 9;moon n at 0 goes 0 temper 0;harbor h at 0 purse 0 depth 0;harbor j at 1 purse 0 depth 0;");
+        CHECK.due("no bid is left over", x.has(8) + x.moon(0, 3) + x.harbor(0, 6), 0);
+    }
+
     private static void promise4Counts() {
         MoonTender x = new MoonTender();
         CHECK.due("80 statements", Check.sea(x, "sea 4;" + "level 7;".repeat(79)), 80);
@@ -170,7 +197,7 @@ public final class TextTest {
         String[] texts = {"^", "  ^", "\n^", "^;", "^4", "^se 4;", "^moon m", "^Sea 4;", "^seas 4;", "sea^", "sea^4;",
             "sea 4^", "sea 4 \n^", "sea ^;", "sea ^a;", "sea 4^.", "sea 4;^;", "sea 4;^sea 5;", "sea 4;^x 7;",
             "sea 4;^7;", "sea 4;level 7^", "sea 4;^at 0;", "sea 4;level^7;", "sea 4;level ^level;", "sea 4;level^\t7;",
-            "sea 4 ^5;", "sea 4; ^-1;", "sea 4;level ^-1;", "sea 1234^5;", "sea 4;level 0000^7;", "sea 4;abcdef^g",
+            "sea 4 ^5;", "sea 4; ^-1;", "sea 4;level ^-1;", "sea 1234^5;", "sea 1000^0;", "sea 4;level 0000^0;", "sea 4;level 0000^7;", "sea 4;abcdef^g",
             "sea 4;level abcdef^ghi", "sea 4;level 7^or;", "sea 4;level 7 ^or;", "sea 4;level 7;^;",
             "sea 4;moon ^7 at", "sea 4;moon ^at at 0", "sea 4;moon ^max", "sea 4;moon abcdef^g at 0",
             "sea 4;moon m ^to 0", "sea 4;moon m^", "sea 4;moon m at ^m", "sea 4;moon m at 0 ^temper 0",
@@ -186,7 +213,7 @@ public final class TextTest {
 
     private static void faultOneInSums() {
         String[] texts = {"pull ^;", "pull 1+^;", "pull ^-1;", "pull 1 ^2;", "pull 1^)", "pull (1^;", "pull (^)",
-            "pull ^all;", "pull ^not 1;", "pull ^m;", "pull ^moon;", "pull ^[1];", "pull min ^1", "pull min(1^)",
+            "pull ^all;", "pull ^not 1;", "pull ^m;", "pull ^moon;", "pull ^[1];", "pull min ^1", "pull min^;", "pull max^+1;", "pull min(1^)",
             "pull min(1,2^,3)", "pull ^or;", "pull 1^<2;", "pull min(^,2)", "pull 1*^/2", "pull 1*^*2", "pull 1000^0;",
             "clause 1^;", "clause ^;", "clause (1^<2);", "clause [1<2^", "clause [1<2^)", "clause 1<2^<3;",
             "clause 1<^;", "clause 1<2 or ^;", "clause 1<2 and ^or 1<2;", "clause not^;", "clause all ^all;",
