@@ -75,6 +75,10 @@ public final class HeightsTest {
         CHECK.due("pull(0, -1)", y.pull(0, -1), NOTHING);
         MoonTender none = CHECK.sea(TWO);
         CHECK.due("without pull", none.pull(0, 0), 0);
+        MoonTender mild = CHECK.sea(TWO + "pull temper;");
+        CHECK.due("by its temper", mild.pull(0, 0), 7);
+        mild.soothe(0, 2);
+        CHECK.due("by its temper then", mild.pull(0, 0), 2);
         x.bid(0, 0, 0);
         CHECK.due("after a bid", x.pull(0, 0), 20);
         x.undo();
@@ -135,6 +139,14 @@ public final class HeightsTest {
         for (int[] n : none) {
             CHECK.due("ahead(" + n[0] + ", " + n[1] + ", " + n[2] + ")", x.ahead(n[0], n[1], n[2]), -1);
         }
+        MoonTender two = CHECK.sea("sea 4;moon m at 0 goes 1 temper 0;harbor h at 0 purse 50 depth 20;"
+                + "harbor i at 2 purse 7 depth 21;pays h m 3;pays i m 4;");
+        CHECK.due("purse of h", two.ahead(0, 2, 0), 44);
+        CHECK.due("purse of i", two.ahead(1, 2, 0), 3);
+        CHECK.due("due of i", two.ahead(1, 2, 2), 4);
+        two.give(0, 1, 10);
+        CHECK.due("purse of i after a gift", two.ahead(1, 2, 0), 9);
+        CHECK.due("purse of h after a gift", two.ahead(0, 2, 0), 34);
         x.bid(0, 0, 1);
         CHECK.due("after another bid", x.ahead(0, 3, 0), 2);
         CHECK.due("after another bid", x.ahead(0, 3, 2), 0);

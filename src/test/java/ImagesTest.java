@@ -92,6 +92,13 @@ public final class ImagesTest {
         CHECK.due("on in another object", Check.on(y, image), true);
         CHECK.same("on, but for the acts", Check.all(y), later.replaceFirst("^((\\S+ ){10})2 ", "$10 "));
         CHECK.due("heights are asked anew", y.height(0, 5), x.height(0, 5));
+        Check.sea(y, "sea 6;moon m at 0 goes 1 temper 3;harbor h at 1 purse 7 depth 9;");
+        CHECK.due("on in a smaller sea", Check.on(y, Check.image(0, 0, 0, 0, 0, 4, 1, 0, 2)), true);
+        CHECK.due("coins", y.has(8), 4);
+        CHECK.due("due", y.has(9), 2);
+        CHECK.due("bids", y.moon(0, 3), 1);
+        Check.sea(y, SEA);
+        Check.on(y, image);
         CHECK.due("the hour", y.has(7), 9);
     }
 

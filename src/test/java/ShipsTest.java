@@ -37,6 +37,11 @@ public final class ShipsTest {
         CHECK.due("the wave has gone", x.across(0, 1, 5), -1);
         x.hours(2);
         CHECK.due("and is at b", x.across(1, 2, 5), 2);
+        MoonTender high = CHECK.sea(WAVE.replace("level 0", "level 99"));
+        CHECK.due("a height of 109", high.height(0, 0), 109);
+        CHECK.due("carries 99", high.across(0, 0, 99), 0);
+        CHECK.due("and there is no draught of 100", high.across(0, 0, 100), -1);
+        CHECK.due("nor then", high.latest(0, 0, 100), -1);
         MoonTender y = CHECK.sea(DEEP);
         CHECK.due("half round", y.across(0, 1, 99), 3);
         CHECK.due("over the ring's end", y.across(0, 2, 99), 1);

@@ -197,7 +197,10 @@ public final class TextTest {
         String[] texts = {"^", "  ^", "\n^", "^;", "^4", "^se 4;", "^moon m", "^Sea 4;", "^seas 4;", "sea^", "sea^4;",
             "sea 4^", "sea 4 \n^", "sea ^;", "sea ^a;", "sea 4^.", "sea 4;^;", "sea 4;^sea 5;", "sea 4;^x 7;",
             "sea 4;^7;", "sea 4;level 7^", "sea 4;^at 0;", "sea 4;level^7;", "sea 4;level ^level;", "sea 4;level^\t7;",
-            "sea 4 ^5;", "sea 4; ^-1;", "sea 4;level ^-1;", "sea 1234^5;", "sea 1000^0;", "sea 4;level 0000^0;", "sea 4;level 0000^7;", "sea 4;abcdef^g",
+            "sea 4 ^5;", "sea 4; ^-1;", "sea 4;level ^-1;", "sea 1234^5;", "sea 1000^0;", "sea 4;level 0000^0;", "sea 4;level 0000^9;", "sea 4;moon abcdef^a", "sea 4;moon abcdef^z",
+            "sea 4;moon m ^0 goes 1 temper 2;", "sea 4;moon m at 0 ^1 temper 2;", "sea 4;moon m at 0 goes 1 ^2;",
+            "sea 4;harbor h ^0 purse 1 depth 2;", "sea 4;pays ^5;", "sea 4;owes ^5;", BASE + "pays h ^5;",
+            BASE + "pays h^5", BASE + "owes h ^5;", "sea 4;level 0000^7;", "sea 4;abcdef^g",
             "sea 4;level abcdef^ghi", "sea 4;level 7^or;", "sea 4;level 7 ^or;", "sea 4;level 7;^;",
             "sea 4;moon ^7 at", "sea 4;moon ^at at 0", "sea 4;moon ^max", "sea 4;moon abcdef^g at 0",
             "sea 4;moon m ^to 0", "sea 4;moon m^", "sea 4;moon m at ^m", "sea 4;moon m at 0 ^temper 0",
@@ -278,6 +281,12 @@ public final class TextTest {
         fault(5, "sea 4;clause not [not [not [not ^[all");
         fault(5, "sea 4;clause 1<2 and [[[[[[[1<2]]]]]]] or [[[[[[[1<^(2)");
         fault(1, "sea 4;clause " + "[".repeat(7) + "^;");
+        MoonTender x = new MoonTender();
+        for (int i = 0; i < 3; i++) {
+            Check.sea(x, "sea 4;clause " + "[".repeat(7) + ";");
+            CHECK.due("fault in the midst of seven open ones", x.fault(0), 1);
+            CHECK.due("seven open ones behind it", Check.sea(x, "sea 4;clause " + "not ".repeat(7) + "all;"), 2);
+        }
     }
 
     private static String many(String statement, int from, int count) {
