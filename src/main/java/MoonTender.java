@@ -1347,7 +1347,9 @@ public final class MoonTender {
         private static void tellMoon(Chart chart, Moment now, int moon, int paid, int rival) {
             int[] values = chart.formulas.values;
             int due = now.dueTo(moon);
-            Arrays.fill(values, 0);
+            values[HEIGHT] = 0;
+            values[DEPTH] = 0;
+            values[PURSE] = 0;
             values[PAID] = paid;
             values[DUE] = due;
             values[TEMPER] = now.temper[moon];
@@ -1358,18 +1360,24 @@ public final class MoonTender {
 
         private static void tellHarbor(Chart chart, Moment now, int harbor, int height) {
             int[] values = chart.formulas.values;
-            Arrays.fill(values, 0);
             values[HEIGHT] = height;
             values[DEPTH] = chart.depth[harbor];
             values[PURSE] = now.purse[harbor];
             values[PAID] = now.offeredBy(harbor);
             values[DUE] = now.dueFrom(harbor);
+            values[FAR] = 0;
+            values[TEMPER] = 0;
+            values[SULKS] = 0;
+            values[RIVAL] = 0;
             values[HOUR] = now.hour;
             values[PLACE] = chart.harborPlace[harbor];
         }
 
         /** The first CLAUSE that is BROKEN by a HARBOR at the HEIGHTS of now, or NONE. */
         int brokenBy(Chart chart, Moment now, int harbor) {
+            if (chart.clauses == 0) {
+                return NONE;
+            }
             tellHarbor(chart, now, harbor, heights[chart.harborPlace[harbor]]);
             for (int c = 0; c < chart.clauses; c++) {
                 if (chart.formulas.reckon(Formulas.OF_CLAUSES + c) == 0) {
