@@ -1,17 +1,49 @@
+import java.io.IOException;
 import java.nio.charset.StandardCharsets;
+import java.nio.file.Files;
+import java.nio.file.Path;
 import java.util.Arrays;
 
 /** What the tests share: telling texts and bytes to an object, and counting answers that are not due. */
 final class Check {
+    private static final Path DOCUMENT = Path.of("../shared/DOC.md");
+
     private int wrong;
     private int asked;
+    private int sentences;
+    private String sentence = "";
+    private String document;
+
+    /** A call on an object, and what it answers (true is 1, false 0). */
+    interface Call {
+        long of(MoonTender x);
+    }
 
     void due(String call, long got, long want) {
         asked++;
         if (got != want) {
             wrong++;
-            System.out.println(call + " answered " + got + ", due is " + want);
+            System.out.println(call + " answered " + got + ", due is " + want + sentence);
         }
+    }
+
+    /** The words of the document that the next answers are about; they must stand there just so. */
+    void says(String words) {
+        sentences++;
+        sentence = " (" + words + ")";
+        due("the document has these words", document().isEmpty() || document().contains(words), true);
+    }
+
+    /** The document in one line; empty where it can't be read, as the class is tested all the same then. */
+    private String document() {
+        if (document == null) {
+            try {
+                document = Files.readString(DOCUMENT).replaceAll("\\s+", " ");
+            } catch (IOException e) {
+                document = "";
+            }
+        }
+        return document;
     }
 
     void due(String call, boolean got, boolean want) {
@@ -20,7 +52,8 @@ final class Check {
 
     /** Ends the test: exit code 1 if an answer was not due. */
     void finish(String name) {
-        System.out.println(name + ": " + asked + " answers, " + wrong + " wrong");
+        String about = sentences > 0 ? " about " + sentences + " sentences" : "";
+        System.out.println(name + ": " + asked + " answers" + about + ", " + wrong + " wrong");
         if (wrong > 0) {
             System.exit(1);
         }
@@ -118,5 +151,116 @@ final class Check {
 
     void same(String call, String got, String want) {
         due(call + " leaves all as it was", got.equals(want), true);
+    }
+
+    /** The ^ in a text stands ahead of the byte where the FAULT is; it isn't told. */
+    void fault(int code, String marked) {
+        int at = marked.indexOf('^');
+        MoonTender x = new MoonTender();
+        due("sea() of <" + marked + ">", sea(x, marked.replace("^", "")), -1);
+        due("fault of <" + marked + ">", x.fault(0), code);
+        due("place of the fault of <" + marked + ">", x.fault(1), at);
+        due("status(1) of <" + marked + ">", x.status(1), 1);
+    }
+
+    /**
+     * A call that is refused: its answer, that it is counted under its number and no other one, and that all
+     * else is as it was (the FAULT, too, but for a call of sea, which has one of its own).
+     */
+    void refused(String call, MoonTender x, int kind, long want, Call c) {
+        int[] counts = new int[6];
+        for (int what = 0; what < 6; what++) {
+            counts[what] = x.status(what);
+        }
+        counts[kind]++;
+        String fault = kind == 1 ? "" : x.fault(0) + " at " + x.fault(1);
+        String before = everything(x);
+        due(call, c.of(x), want);
+        for (int what = 0; what < 6; what++) {
+            due("status(" + what + ") after " + call, x.status(what), counts[what]);
+        }
+        same(call, everything(x), before);
+        due(call + " leaves the fault", kind == 1 || fault.equals(x.fault(0) + " at " + x.fault(1)), true);
+    }
+
+    /** What an object of a small SEA answers, now and ahead; some 200 calls with two MOONS and two HARBORS. */
+    static String everything(MoonTender x) {
+        StringBuilder s = new StringBuilder();
+        for (int what = 0; what <= 11; what++) {
+            tell(s, x.has(what));
+        }
+        for (int m = 0; m < x.has(1); m++) {
+            tell(s, x.letter(0, m, 0), x.letter(0, m, 5), x.moon(m, 0), x.moon(m, 1), x.moon(m, 2), x.moon(m, 3),
+                    x.moon(m, 4), x.moon(m, 5), x.pull(m, 0), x.pull(m, 3));
+        }
+        for (int h = 0; h < x.has(2); h++) {
+            tell(s, x.letter(1, h, 0), x.letter(1, h, 5));
+            for (int what = 0; what <= 9; what++) {
+                tell(s, x.harbor(h, what));
+            }
+            for (int m = 0; m < x.has(1); m++) {
+                tell(s, x.bids(h, m, 0), x.bids(h, m, 1), x.rest(10 * h + m), x.wished(h, 21, m));
+            }
+            tell(s, x.ahead(h, 1, 0), x.ahead(h, 48, 1), x.ahead(h, 9, 2), x.across(0, h, 9), x.latest(h, 0, 9));
+        }
+        for (int p = 0; p < 4; p++) {
+            tell(s, x.height(p, 0), x.height(p, 1), x.height(p, 48));
+        }
+        tell(s, x.broken(0), x.broken(1), x.broken(2), x.stranded(0, 0), x.stranded(0, 1), x.rest(-1), x.meet(0),
+                x.meet(1), x.payers(0), x.payers(1), x.payers(2));
+        for (int k = 0; k < 97 && x.octet(k) >= 0; k++) {
+            tell(s, x.octet(k));
+        }
+        return s.toString();
+    }
+
+    private static void tell(StringBuilder s, int... answers) {
+        for (int answer : answers) {
+            s.append(answer).append(' ');
+        }
+    }
+
+    /** The bytes of AN IMAGE of now, but for the last one. */
+    static int[] picture(MoonTender x) {
+        int[] bytes = new int[x.image() - 1];
+        for (int k = 0; k < bytes.length; k++) {
+            bytes[k] = x.octet(k);
+        }
+        return bytes;
+    }
+
+    /** All as it is now, but for these bytes of its IMAGE: whether there is such a one. */
+    static boolean with(MoonTender x, int at, int... bytes) {
+        int[] image = picture(x);
+        System.arraycopy(bytes, 0, image, at, bytes.length);
+        return on(x, image(image));
+    }
+
+    private static int harborAt(MoonTender x, int harbor) {
+        return 2 + 2 * x.has(1) + harbor * (2 + 3 * x.has(1));
+    }
+
+    static boolean withHour(MoonTender x, int n) {
+        return with(x, 0, n >> 8, n & 255);
+    }
+
+    static boolean withPlace(MoonTender x, int moon, int n) {
+        return with(x, 2 + 2 * moon, n);
+    }
+
+    static boolean withTemper(MoonTender x, int moon, int n) {
+        return with(x, 3 + 2 * moon, n);
+    }
+
+    static boolean withPurse(MoonTender x, int harbor, int n) {
+        return with(x, harborAt(x, harbor), n >> 8, n & 255);
+    }
+
+    static boolean withBid(MoonTender x, int harbor, int moon, int n) {
+        return with(x, harborAt(x, harbor) + 2 + 3 * moon, n);
+    }
+
+    static boolean withDue(MoonTender x, int harbor, int moon, int n) {
+        return with(x, harborAt(x, harbor) + 3 + 3 * moon, n >> 8, n & 255);
     }
 }

@@ -179,14 +179,8 @@ public final class TextTest {
         CHECK.due("fault(1) of a good one", x.fault(1), -1);
     }
 
-    /** The ^ in a text stands ahead of the byte where the FAULT is; it isn't told. */
     private static void fault(int code, String marked) {
-        int at = marked.indexOf('^');
-        MoonTender x = new MoonTender();
-        CHECK.due("sea() of <" + marked + ">", Check.sea(x, marked.replace("^", "")), -1);
-        CHECK.due("fault of <" + marked + ">", x.fault(0), code);
-        CHECK.due("place of the fault of <" + marked + ">", x.fault(1), at);
-        CHECK.due("status(1) of <" + marked + ">", x.status(1), 1);
+        CHECK.fault(code, marked);
     }
 
     private static void good(String text) {
