@@ -13,6 +13,7 @@ public final class CallBoundsTest {
         feed();
         feedRefused();
         end();
+        endAlone();
         endRefused();
         sea();
         seaRefused();
@@ -184,6 +185,25 @@ public final class CallBoundsTest {
         CHECK.due("are none", x.sea(), -1);
         CHECK.due("no others came in their place", x.fault(1), 0);
         CHECK.due("end(1600)", fed(1600).end(1600), true);
+    }
+
+    /** What stood behind the first n bytes is gone: each beginning of a text is read as if nothing had been there. */
+    private static void endAlone() {
+        CHECK.says("The tape has its first n bytes alone");
+        String text = "sea 24;moon mmmmmm at 23 goes 11 temper 0;level 77;clause 1<2 and 22>1111;";
+        for (int n = 0; n <= text.length(); n++) {
+            MoonTender cut = CHECK.sea("sea 4;");
+            Check.tape(cut, text);
+            CHECK.due("end(" + n + ")", cut.end(n), true);
+            MoonTender told = CHECK.sea("sea 4;");
+            Check.tape(told, text.substring(0, n));
+            CHECK.due("sea() of the first " + n, cut.sea(), told.sea());
+            CHECK.due("fault of the first " + n, cut.fault(0), told.fault(0));
+            CHECK.due("place of it", cut.fault(1), told.fault(1));
+            boolean whole = n > 0 && text.charAt(n - 1) == ';';
+            CHECK.due("whether it is one", cut.fault(0) == 0, whole);
+            CHECK.due("how long it is", whole || cut.fault(1) <= n, true);
+        }
     }
 
     private static void endRefused() {
@@ -677,6 +697,11 @@ public final class CallBoundsTest {
         CHECK.due("the greatest draught, latest", x.latest(0, 1, 99), 46);
         CHECK.due("the least draught, latest", x.latest(1, 0, 0), 46);
         CHECK.due("it is one, latest", x.latest(1, 1, 99), 48);
+        MoonTender high = CHECK.sea("sea 4;level 99;moon m at 0 goes 0 temper 0;harbor h at 0 purse 0 depth 0;pull 9*(1-far);");
+        CHECK.due("a height above 100", high.height(0, 0), 108);
+        CHECK.due("by a draught of 99", high.across(0, 0, 99), 0);
+        CHECK.due("by none of 100", high.across(0, 0, 100), -1);
+        CHECK.due("nor latest", high.latest(0, 0, 100), -1);
     }
 
     private static void meet() {
@@ -733,9 +758,11 @@ public final class CallBoundsTest {
         CHECK.refused("see of a place too far", nothing, 5, -1, x -> Check.see(x, 4, 20));
         CHECK.due("nothing is seen still", nothing.payers(0), -1);
         CHECK.due("the last place can be", Check.see(nothing, 3, 20), 1);
-        MoonTender wide = CHECK.sea("sea 24;");
-        CHECK.due("the last of 24", Check.see(wide, 23, 20), 1);
-        CHECK.due("one more than that", Check.see(wide, 24, 20), -1);
+        for (int places = 4; places <= 24; places++) {
+            MoonTender wide = CHECK.sea("sea " + places + ";");
+            CHECK.due("the last of " + places, Check.see(wide, places - 1, 20), 1);
+            CHECK.due("one more than that", Check.see(wide, places, 20), -1);
+        }
     }
 
     private static void payers() {

@@ -34,6 +34,11 @@ final class Check {
         due("the document has these words", document().isEmpty() || document().contains(words), true);
     }
 
+    /** What the next answers are about, where it is no sentence of the document. */
+    void about(String words) {
+        sentence = " (" + words + ")";
+    }
+
     /** The document in one line; empty where it can't be read, as the class is tested all the same then. */
     private String document() {
         if (document == null) {

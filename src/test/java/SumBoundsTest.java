@@ -199,7 +199,8 @@ public final class SumBoundsTest {
     private static void wordsInPull() {
         CHECK.says("height, depth, purse are 0. In earns");
         String sea = "sea 5;level 30;sulk 3;moon m at 1 goes 1 temper 7;moon n at 3 goes 1 temper 9;"
-                + "harbor h at 2 purse 4 depth 6;harbor i at 4 purse 50 depth 8;pays h m 2;pays h n 3;pays i m 1;pays i n 4;";
+                + "harbor h at 2 purse 4 depth 6;harbor i at 4 purse 50 depth 8;pays h m 2;pays h n 3;pays i m 1;pays i n 4;"
+                + "earns min(0,height);clause purse<99;";
         String[] words = {"height", "depth", "purse", "paid", "due", "far", "temper", "sulks", "rival", "hour", "place"};
         int[] first = {0, 0, 0, 3, 0, 2, 7, 0, 7, 0, 4};
         int[] later = {0, 0, 0, 7, 3, 0, 9, 1, 3, 1, 4};
@@ -213,8 +214,9 @@ public final class SumBoundsTest {
 
     private static void wordsOfHarbors() {
         CHECK.says("far, temper, sulks, rival are 0.");
-        String sea = "sea 5;level 30;sulk 1;moon m at 1 goes 1 temper 7;harbor g at 0 purse 9 depth 9;"
-                + "harbor h at 2 purse 4 depth 6;pays h m 5;pays g m 1;pull 1-far;";
+        String sea = "sea 5;level 30;sulk 1;moon m at 1 goes 1 temper 7;moon n at 1 goes 1 temper 8;"
+                + "harbor g at 0 purse 0 depth 9;harbor h at 2 purse 4 depth 6;pays h m 5;pays g m 1;pays g n 2;"
+                + "pull (1-far)*(8-temper);";
         String[] words = {"height", "depth", "purse", "paid", "due", "far", "temper", "sulks", "rival", "hour", "place"};
         int[] first = {30, 6, 4, 5, 0, 0, 0, 0, 0, 0, 2};
         int[] later = {31, 6, 4, 5, 5, 0, 0, 0, 0, 1, 2};
@@ -225,9 +227,9 @@ public final class SumBoundsTest {
             CHECK.due(words[i] + " in a clause an hour later", x.broken(0), -1);
             x = CHECK.sea(sea + "clause place=0 or not " + words[i] + "=" + first[i] + ";");
             CHECK.due(words[i] + " in a clause, not", x.broken(0), 0);
-            x = CHECK.sea(sea.replace("pays h m 5", "pays h m 0") + "earns " + words[i] + ";");
-            int earned = words[i].equals("paid") ? 0 : first[i];
-            CHECK.due(words[i] + " in what is earned", x.ahead(1, 1, 0), 4 + earned);
+            x = CHECK.sea(sea + "earns " + words[i] + ";");
+            int paid = 4 + first[i] >= 5 ? 5 : 0;
+            CHECK.due(words[i] + " in what is earned", x.ahead(1, 1, 0), 4 + first[i] - paid);
         }
     }
 

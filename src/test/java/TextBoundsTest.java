@@ -517,15 +517,24 @@ public final class TextBoundsTest {
 
     private static void tooLong() {
         CHECK.says("a 7th letter, a 5th digit at itself, whatever may stand there");
-        for (int count = 0; count < TOKENS.length; count++) {
+        for (int count = 0; count <= TOKENS.length; count++) {
             String ahead = count == 0 ? "" : upTo(count) + " ";
-            fault(1, ahead + "abcdef^g");
-            fault(1, ahead + "harbor^s 1");
-            fault(1, ahead + "1234^5;");
-            fault(1, ahead + "0000^0 ");
+            for (String letter : new String[] {"a", "g", "z"}) {
+                fault(1, ahead + "abcdef^" + letter);
+                fault(1, ahead + "harbor^" + letter + " 1");
+            }
+            for (String digit : new String[] {"0", "5", "9"}) {
+                fault(1, ahead + "1234^" + digit + ";");
+                fault(1, ahead + "0000^" + digit);
+            }
         }
-        fault(1, upTo(TOKENS.length) + "abcdef^g");
-        fault(1, upTo(TOKENS.length) + "0000^0");
+        for (int sign : ";+-*/%()[],<>=".toCharArray()) {
+            fault(1, "sea 4 00" + sign + "^0");
+            fault(1, "sea 4 ^00" + sign);
+            fault(1, "sea 4;clause min 00" + sign + "^0");
+            fault(1, "sea 4;pull 1 00" + sign + "^0 1;");
+            fault(1, "sea 4;clause 1 ^00" + sign + " 1;");
+        }
     }
 
     private static void wholeWords() {
