@@ -13,6 +13,8 @@ final class Check {
     private int sentences;
     private String sentence = "";
     private String document;
+    /** How far the document is read. */
+    private int at;
 
     /** A call on an object, and what it answers (true is 1, false 0). */
     interface Call {
@@ -32,6 +34,37 @@ final class Check {
         sentences++;
         sentence = " (" + words + ")";
         due("the document has these words", document().isEmpty() || document().contains(words), true);
+    }
+
+    /** The document is read from this heading on. */
+    void readsFrom(String heading) {
+        at = document().indexOf(heading);
+        due("the document has " + heading, document().isEmpty() || at >= 0, true);
+    }
+
+    /** The document goes on with just these words, and the next answers are about them. */
+    void reads(String words) {
+        sentences++;
+        sentence = " (" + words + ")";
+        if (document().isEmpty()) {
+            return;
+        }
+        while (at >= 0 && at < document.length() && document.charAt(at) == ' ') {
+            at++;
+        }
+        boolean there = at >= 0 && document.startsWith(words, at);
+        due("the document goes on like this", there, true);
+        at = there ? at + words.length() : document.indexOf(words) + words.length();
+    }
+
+    /** Nothing of the document was left out up to this heading, or its end. */
+    void readsUpTo(String heading) {
+        sentence = "";
+        if (!document().isEmpty()) {
+            int end = heading.isEmpty() ? document.length() : document.indexOf(heading);
+            boolean all = at >= 0 && at <= end && document.substring(at, end).isBlank();
+            due("the document is read up to " + (heading.isEmpty() ? "its end" : heading), all, true);
+        }
     }
 
     /** What the next answers are about, where it is no sentence of the document. */
