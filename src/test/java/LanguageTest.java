@@ -1,13 +1,20 @@
 import java.io.IOException;
+import java.io.PrintWriter;
+import java.io.StringWriter;
 import java.lang.reflect.Constructor;
 import java.lang.reflect.Field;
 import java.lang.reflect.Method;
 import java.lang.reflect.Modifier;
 import java.nio.file.Files;
 import java.nio.file.Path;
+import java.util.ArrayList;
+import java.util.HashMap;
 import java.util.List;
+import java.util.Map;
 import java.util.Set;
+import java.util.TreeMap;
 import java.util.TreeSet;
+import java.util.spi.ToolProvider;
 import java.util.regex.Matcher;
 import java.util.regex.Pattern;
 
@@ -29,6 +36,8 @@ public final class LanguageTest {
         List<String> lines = Files.readAllLines(Path.of("src/main/java/MoonTender.java"));
         words(lines);
         lengths(lines);
+        made(lines);
+        depth();
         CHECK.finish("LanguageTest");
     }
 
@@ -135,5 +144,103 @@ public final class LanguageTest {
                 start = -1;
             }
         }
+    }
+
+    /** Objects and arrays are made with the fields that hold them, or in a constructor: no call makes one. */
+    private static void made(List<String> lines) {
+        Pattern field = Pattern.compile("^( {4}| {8})(private )?(static )?(final )?[\\w\\[\\]]+ \\w+ = new .*;$");
+        for (int i = 0; i < lines.size(); i++) {
+            String line = lines.get(i).replaceAll("//.*|^\\s*(/?\\*).*|\"[^\"]*\"", "");
+            if (line.matches(".*\\bnew\\b.*")) {
+                boolean ofField = field.matcher(line).find() && line.matches(" +(private|final) .*");
+                boolean ofPast = line.strip().equals("ring[i] = new Moment();");
+                CHECK.due("line " + (i + 1) + " makes an object in a call: " + line, ofField || ofPast, true);
+            }
+        }
+    }
+
+    /** Calls go at most eight deep, each ring of methods that call one another counted once. */
+    private static void depth() {
+        Map<String, Set<String>> calls = calls();
+        CHECK.due("methods found: " + calls.size(), calls.size() > 100, true);
+        Map<String, Set<String>> reached = new HashMap<>();
+        for (String method : calls.keySet()) {
+            reached.put(method, reachedFrom(method, calls));
+        }
+        Map<String, Integer> known = new HashMap<>();
+        for (String method : calls.keySet()) {
+            int deep = depthOf(method, calls, reached, known);
+            CHECK.due(method + " goes " + deep + " deep", deep <= 8, true);
+        }
+    }
+
+    private static Set<String> reachedFrom(String method, Map<String, Set<String>> calls) {
+        Set<String> found = new TreeSet<>();
+        List<String> open = new ArrayList<>(List.of(method));
+        while (!open.isEmpty()) {
+            for (String next : calls.getOrDefault(open.remove(open.size() - 1), Set.of())) {
+                if (found.add(next)) {
+                    open.add(next);
+                }
+            }
+        }
+        return found;
+    }
+
+    private static int depthOf(String method, Map<String, Set<String>> calls, Map<String, Set<String>> reached,
+            Map<String, Integer> known) {
+        if (known.containsKey(method)) {
+            return known.get(method);
+        }
+        Set<String> ring = new TreeSet<>(Set.of(method));
+        for (String other : reached.get(method)) {
+            if (reached.get(other).contains(method)) {
+                ring.add(other);
+            }
+        }
+        int below = 0;
+        for (String member : ring) {
+            for (String next : calls.get(member)) {
+                if (!ring.contains(next)) {
+                    below = Math.max(below, depthOf(next, calls, reached, known));
+                }
+            }
+        }
+        known.put(method, below + 1);
+        return below + 1;
+    }
+
+    /** Which methods of the class, and of those inside it, each of them calls, as javap tells. */
+    private static Map<String, Set<String>> calls() {
+        List<String> names = new ArrayList<>(List.of("MoonTender"));
+        for (Class<?> c : MoonTender.class.getDeclaredClasses()) {
+            names.add(c.getName());
+        }
+        Map<String, Set<String>> calls = new TreeMap<>();
+        Pattern head = Pattern.compile("^  (?:\\w.* )?([\\w$]+)\\([^()]*\\);$");
+        Pattern call = Pattern.compile("// (?:Interface)?Method (?:(MoonTender[\\w$]*)\\.)?\"?([\\w<>]+)\"?:");
+        for (String name : names) {
+            String method = "";
+            for (String line : javap(name).split("\n")) {
+                Matcher h = head.matcher(line);
+                Matcher c = call.matcher(line);
+                if (h.find()) {
+                    method = name + "." + (h.group(1).equals(name) ? "<init>" : h.group(1));
+                    calls.computeIfAbsent(method, key -> new TreeSet<>());
+                } else if (c.find() && (c.group(1) != null || !line.contains("Method java"))) {
+                    calls.get(method).add((c.group(1) == null ? name : c.group(1)) + "." + c.group(2));
+                }
+            }
+        }
+        return calls;
+    }
+
+    private static String javap(String name) {
+        StringWriter out = new StringWriter();
+        PrintWriter writer = new PrintWriter(out);
+        ToolProvider tool = ToolProvider.findFirst("javap").orElseThrow();
+        int code = tool.run(writer, writer, "-c", "-p", "-cp", System.getProperty("java.class.path"), name);
+        CHECK.due("javap of " + name, code, 0);
+        return out.toString();
     }
 }
