@@ -1,6 +1,6 @@
 /**
- * The document read from Promise 1 to its end, no word left out: what each promise says, and answers that were reckoned
- * by hand (most of them about Example).
+ * The document read from Promise 1 to its end, no word left out: what each promise says, and answers, most of them
+ * reckoned by hand (about Example).
  */
 public final class PromisesTest {
     private static final Check CHECK = new Check();

@@ -4,7 +4,7 @@ import java.util.Arrays;
 import java.util.List;
 
 /**
- * The document read from its first line to the promises, no word left out: what it says, and answers that were
+ * The document read from its first line to the promises, no word left out: what it says, and answers, most of them
  * reckoned by hand.
  */
 public final class TermsTest {
